@@ -29,6 +29,9 @@ public final class ForeseenTest {
         check.same("until", Check.taught(ONE_BOAT.replace("DUE", "297")).until(0), -1);
         x.again(0, 0);
         check.same("until() of one that waits for the turn", x.until(0), -1);
+        x.whistle(1);
+        check.same("until() behind the walk", x.until(0) > 10, true);
+        check.same("foresee() by the turn as it is", x.foresee(30, 10), 1);
         check.outOfBounds(x, "until(1)", () -> x.until(1));
         check.outOfBounds(x, "until(-1)", () -> x.until(-1));
     }

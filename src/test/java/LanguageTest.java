@@ -10,6 +10,7 @@ public final class LanguageTest {
         test.newObject();
         test.feedAndTrim();
         test.teachAnew();
+        test.nothingIsLeftOver();
         test.teachWithAnError();
         test.tokens();
         test.lines();
@@ -111,6 +112,60 @@ public final class LanguageTest {
         check.same("count(0)", x.count(0), 3);
     }
 
+    /** Taught behind a greater list that has been at work, a list goes as in a new object of the same minute. */
+    private void nothingIsLeftOver() {
+        StringBuilder great = new StringBuilder(bores(5).replace("low 0", "low 9")).append("shaft s at 3 draught 3; shaft t at 9 draught 1; ");
+        great.append(lines(6, "legger l", " strength 4 lungs 9; "));
+        for (int i = 0; i < 8; i++) {
+            great.append("boat k").append(i).append(" weight ").append(i < 2 ? 1 : 60).append(" from ")
+                .append(i % 2 == 0 ? "west" : "east").append(" due 0 by l").append(i % 6).append(" and l")
+                .append((i + 1) % 6).append("; ");
+        }
+        great.append(times(3, "whistle east when minute / 9 * 9 = minute; rest l1 when not capped l2 and 1 = 2; "));
+        String small = "bore a long 3 low 0; bore b long 2 low 9; legger p strength 9 lungs 9; "
+            + "legger q strength 5 lungs 8; boat k weight 7 from west due 0 by p and q; "
+            + "whistle east when air(5) = 0 and minute > 40; whistle west when 1 = 1;";
+        TunnelLeggers x = new TunnelLeggers();
+        TunnelLeggers fresh = new TunnelLeggers();
+        for (String list : new String[] {great.toString(), "legger p strength 1 lungs 1; legger q strength 1 lungs 1;", small}) {
+            for (int i = 0; i < 2; i++) {
+                Check.tape(x, list);
+                check.same("teach", x.teach(), 0);
+                x.pass(24);
+                fresh.pass(24);
+            }
+        }
+        TunnelLeggers worked = Check.taught(great.toString());
+        check.same("caps that lie by the great list", worked.foresee(24, 12) > 0, true);
+        check.same("boats in the tunnel by the great list", worked.foresee(24, 9) > 0, true);
+        Check.tape(x, small);
+        x.teach();
+        Check.tape(fresh, small);
+        fresh.teach();
+        for (int i = 0; i < 9; i++) {
+            check.same("digest", x.digest(), fresh.digest());
+            check.sameDouble("mean", x.mean(), fresh.mean());
+            check.same("pass", x.pass(1), fresh.pass(1));
+        }
+        // The operations of the tests are not kept either: they would be too many soon.
+        String sums = WHEN + "1 = 1" + times(90, "+1") + "; whistle east when 1 = 1;";
+        for (int i = 0; i < 8; i++) {
+            Check.tape(x, sums);
+            check.same("teach", x.teach(), 0);
+            x.pass(1);
+            check.same("count(1) by the second order", x.count(1), 1);
+        }
+        // Who walks or has lost a cap begins anew.
+        TunnelLeggers y = Check.taught("bore a long 1 low 9; legger p strength 9 lungs 9; legger q strength 9 lungs 9; "
+            + "boat k weight 1 from west due 0 by p and q;");
+        y.pass(1);
+        check.same("legger(0, 5)", y.legger(0, 5), 9);
+        Check.tape(y, TWO);
+        y.teach();
+        check.same("legger(0, 5)", y.legger(0, 5), 0);
+        check.same("legger(0, 6)", y.legger(0, 6), -1);
+    }
+
     private void teachWithAnError() {
         TunnelLeggers x = Check.taught("bore a long 5 low 9; " + TWO + "boat k weight 1 from east due 0 by p and q;");
         x.pass(3);
@@ -190,6 +245,11 @@ public final class LanguageTest {
         wrong(1, "whistle west ^1 = 1;");
         wrong(1, "rest ^west when 1 = 1;");
         wrong(1, "^west when 1 = 1;");
+        wrong(1, "bore a long 1^;");
+        wrong(1, "shaft s at 1^;");
+        wrong(1, "shaft s^;");
+        wrong(1, "legger p strength 1^;");
+        wrong(1, "legger p^;");
         wrong(1, "^name;");
         wrong(1, "^7;");
     }
@@ -221,6 +281,12 @@ public final class LanguageTest {
         wrong(1, list + "1 - ^+ 1 = 1;");
         wrong(1, list + "1 * ^) = 1;");
         wrong(1, list + "1 ^2 = 1;");
+        wrong(1, list + "1 * ^= 1;");
+        wrong(1, list + "1 / ^= 1;");
+        wrong(1, list + "1 + ^= 1;");
+        wrong(1, list + "- ^= 1;");
+        wrong(1, list + "1 = 1 and ^or 1 = 1;");
+        wrong(1, list + "not ^and 1 = 1;");
         wrong(1, list + "waits ^k = 1;");
         wrong(1, list + "air ^1 = 1;");
         wrong(1, list + "air(1^, 2) = 1;");
@@ -253,6 +319,9 @@ public final class LanguageTest {
         wrong(1, WHEN + times(8, "-") + "air^(1) = 1;");
         wrong(1, WHEN + times(8, "-") + "min^(1, 2) = 1;");
         wrong(1, WHEN + times(8, "not ") + "^[1 = 1];");
+        right(WHEN + "min(" + times(7, "(") + "1" + times(7, ")") + ", " + times(7, "(") + "1" + times(7, ")") + ") = 1;");
+        wrong(1, WHEN + "max(1, " + times(7, "(") + "^(1" + times(8, ")") + ") = 1;");
+        wrong(1, WHEN + "max(" + times(7, "(") + "^(1" + times(8, ")") + ", 1) = 1;");
         wrong(1, WHEN + times(8, "[") + "^-1 = 1" + times(8, "]") + ";");
         right(WHEN + times(12, "1 - ") + "1 = 1;");
         right(WHEN + times(8, "-") + "1 - 1 * " + times(8, "-") + "1 = " + times(8, "(") + "1" + times(8, ")") + ";");

@@ -13,7 +13,9 @@ public final class MinuteTest {
         test.fromTheOtherEnd();
         test.leggersOfTwoBoats();
         test.breathToEnter();
+        test.breathOfTheFree();
         test.badAir();
+        test.airByShafts();
         test.noBreathNoPush();
         test.boatAhead();
         test.caps();
@@ -164,6 +166,7 @@ public final class MinuteTest {
         x = Check.taught(list.replace("WEIGHT", "9").replace("west", "east") + "whistle east when 1 = 1;");
         x.pass(2);
         boat(x, 0, 1, 5, 7, -1);
+        boat(x, 1, 0, -1, 0, -1);
         check.same("canEnter with a boat at the place 3 from the east", x.canEnter(1), false);
         x = Check.taught(list.replace("WEIGHT", "4").replace("west", "east") + "whistle east when 1 = 1;");
         x.pass(1);
@@ -228,6 +231,46 @@ public final class MinuteTest {
         check.same("canEnter with 20", Check.taught(list.replace("LUNGS", "2").replace("CREW", "p and q")).canEnter(0), true);
         check.same("canEnter with 10", Check.taught(list.replace("LUNGS", "1").replace("CREW", "p and q")).canEnter(0), false);
         check.same("canEnter with 10", Check.taught(list.replace("LUNGS", "1").replace("CREW", "q and p")).canEnter(0), false);
+    }
+
+    private void breathOfTheFree() {
+        // 6, 5, 5, 4, 4, 4, 3, 3, 3, 2, 2, 2 are pushed; the air is 34 and 28 in the end
+        TunnelLeggers x = Check.taught("bore a long 1 low 0; " + leggers(3, 3, 3, 9)
+            + "boat k weight 49 from west due 0 by p and q;");
+        check.same("pass", x.pass(12), 0);
+        breath(x, 27, 87);
+        boat(x, 0, 1, 0, 43, -1);
+        x.air();
+        // Out: already in this minute there are 2 more
+        check.same("pass", x.pass(1), 1);
+        breath(x, 29, 89);
+        x.again(0, 0);
+        x.whistle(1);
+        check.same("canEnter of those who walk", x.canEnter(0), false);
+        x.pass(1);
+        breath(x, 30, 90);
+    }
+
+    private void airByShafts() {
+        // 3 less a minute: 40 in the 19th minute, then 37, 34, 31, 28, 25, 22, 19
+        String list = "bore a long 1 low 0; shaft s at 0 draught 3; " + leggers(1, 9, 1, 9)
+            + "boat k weight 60 from west due 0 by p and q;";
+        TunnelLeggers x = Check.taught(list);
+        x.pass(19);
+        air(x, 43);
+        int[] due = {90, 89, 88, 87, 85, 83, 81, 78};
+        for (int breath : due) {
+            breath(x, breath, breath);
+            x.pass(1);
+        }
+        // 1 less a minute: 40 in the 55th minute, then 39
+        x = Check.taught(list.replace("draught 3", "draught 5"));
+        x.pass(55);
+        breath(x, 90, 90);
+        x.pass(1);
+        breath(x, 89, 89);
+        // 2, then 50 times 1, as long as the air was 50 or more
+        boat(x, 0, 1, 0, 52, -1);
     }
 
     private void badAir() {
@@ -509,6 +552,11 @@ public final class MinuteTest {
         check.same("in minute 2", holds(list, "waits west = 0 and waits east = 1 and place k = 0 and inside k and not inside m "
             + "and not capped p and capped q and capped r and air(0) = 94 and air(1 - 1) > 93 and air(1) = 100", 3), true);
         check.same("in minute 4", holds(list, "waits west = 1 and waits east = 2 and place k = 1 and place m = -1", 5), true);
+        check.same("capped p", holds(list, "capped p", 1), true);
+        check.same("capped p", holds(list, "capped p", 4), false);
+        check.same("capped q", holds(list, "capped q", 4), true);
+        check.same("inside k", holds(list, "inside k", 2), false);
+        check.same("inside k", holds(list, "inside k", 3), true);
         check.same("turn", holds(list + "whistle east when minute = 1;", "turn = 1", 3), true);
         // 12 in minute 1; 11 and a move with 5; 12; 11 and a move with 10; 12 and out
         check.same("in minute 6", holds(list, "place k = -1 and not inside k and waits west = 1", 7), true);
