@@ -1407,14 +1407,16 @@ public final class TunnelLeggers {
 
         private void bringAir() {
             for (int s = 0; s < plan.shafts; s++) {
-                int place = at(plan.shaftAt, s);
-                int draught = at(plan.draught, s);
-                for (int p = 0; p < plan.places; p++) {
-                    int better = draught - 2 * Math.abs(p - place);
-                    if (better > 0) {
-                        put(air, p, Math.min(GOOD_AIR, at(air, p) + better));
-                    }
-                }
+                bringAirBy(at(plan.shaftAt, s), at(plan.draught, s));
+            }
+        }
+
+        private void bringAirBy(int shaftPlace, int draught) {
+            // No further than the draught is felt: this is the dearest loop of a minute.
+            int reach = draught / 2;
+            int first = Math.max(0, shaftPlace - reach);
+            for (int p = first; p <= shaftPlace + reach && p < plan.places && p < air.length; p++) {
+                air[p] = Math.min(GOOD_AIR, air[p] + draught - 2 * Math.abs(p - shaftPlace));
             }
         }
 

@@ -117,7 +117,7 @@ public final class LanguageTest {
         StringBuilder great = new StringBuilder(bores(5).replace("low 0", "low 9")).append("shaft s at 3 draught 3; shaft t at 9 draught 1; ");
         great.append(lines(6, "legger l", " strength 4 lungs 9; "));
         for (int i = 0; i < 8; i++) {
-            great.append("boat k").append(i).append(" weight ").append(i < 2 ? 1 : 60).append(" from ")
+            great.append("boat k").append(i).append(" weight ").append(i != 1 ? 1 : 60).append(" from ")
                 .append(i % 2 == 0 ? "west" : "east").append(" due 0 by l").append(i % 6).append(" and l")
                 .append((i + 1) % 6).append("; ");
         }
@@ -359,6 +359,11 @@ public final class LanguageTest {
         wrong(2, TWO + "boat k weight 1 from west due 0 by p and q; boat ^k weight 1 from west due 0 by z and z;");
         right("bore p long 1 low 0; shaft p at 0 draught 1; " + TWO + "boat p weight 1 from west due 0 by p and q; "
             + "rest p when inside p and capped p and breath p = place p;");
+        right("bore a long 1 low 0; bore aa long 1 low 0; bore aaaaaaaaaa long 1 low 0; bore az long 1 low 0; "
+            + "bore a0 long 1 low 0;");
+        right("bore a9 long 1 low 0; bore b long 1 low 0; bore ba long 1 low 0; bore zzzzzzzzzz long 1 low 0; "
+            + "bore z999999999 long 1 low 0;");
+        wrong(2, "bore zzzzzzzzzz long 1 low 0; bore ^zzzzzzzzzz long 1 low 0;");
         wrong(2, bores(5) + "bore ^b2 long 1 low 0;");
     }
 
