@@ -6,6 +6,23 @@ final class Check {
 
     private int compared = 0;
     private int wrong = 0;
+    private String sentence = "";
+    private int comparedBefore = 0;
+    private int sentences = 0;
+
+    /** What the document says, of which the next answers are; each sentence needs one at least. */
+    void about(String itsSentence) {
+        endSentence();
+        sentence = itsSentence;
+        comparedBefore = compared;
+        sentences++;
+    }
+
+    private void endSentence() {
+        if (!sentence.isEmpty() && compared == comparedBefore) {
+            tell("no answer was compared");
+        }
+    }
 
     void same(String call, long got, long due) {
         compared++;
@@ -35,9 +52,28 @@ final class Check {
         }
     }
 
+    /** A list is told to a new object, whose tape is empty behind it. */
+    void error(String text, int error, int at) {
+        TunnelLeggers x = new TunnelLeggers();
+        tape(x, text);
+        same("teach() of " + text, x.teach(), error);
+        same("errorAt() of " + text, x.errorAt(), at);
+        same("count(13) behind teach()", x.count(13), 0);
+    }
+
+    void right(String text) {
+        error(text, 0, -1);
+    }
+
+    /** The error is at the sign ^, which is not part of the list. */
+    void wrong(int error, String text) {
+        error(text.replace("^", ""), error, text.indexOf('^'));
+    }
+
     /** The call must throw just this exception, and leave the object as it was. */
     void refused(TunnelLeggers x, String call, Class<?> due, Runnable body) {
         long before = x.digest();
+        int errorAt = x.errorAt();
         String got = "nothing";
         try {
             body.run();
@@ -46,6 +82,7 @@ final class Check {
         }
         sameText(call + " throws", got, due.getSimpleName());
         same("digest() behind " + call, x.digest(), before);
+        same("errorAt() behind " + call, x.errorAt(), errorAt);
     }
 
     void outOfBounds(TunnelLeggers x, String call, Runnable body) {
@@ -59,12 +96,14 @@ final class Check {
     private void tell(String line) {
         wrong++;
         if (wrong <= MOST_PRINTED) {
-            System.out.println(line);
+            System.out.println(sentence.isEmpty() ? line : "\"" + sentence + "\": " + line);
         }
     }
 
     void end() {
-        System.out.println(compared + " answers compared, " + wrong + " of them wrong");
+        endSentence();
+        String of = sentences == 0 ? "" : " of " + sentences + " sentences";
+        System.out.println(compared + " answers" + of + " compared, " + wrong + " of them wrong");
         if (wrong > 0 || compared == 0) {
             System.exit(1);
         }
@@ -87,6 +126,14 @@ final class Check {
             word = word << 8 | (i < bytes.length ? bytes[i] & 255 : ' ');
         }
         return word;
+    }
+
+    /** Whether a test of an order holds in the last of so many minutes of a new object. */
+    static boolean holds(String list, String test, int minutes) {
+        String last = "minute = " + (minutes - 1);
+        TunnelLeggers x = taught(list + "whistle east when " + last + " and [" + test + "]; whistle west when " + last + ";");
+        x.pass(minutes);
+        return x.count(1) == 1;
     }
 
     static TunnelLeggers taught(String text) {

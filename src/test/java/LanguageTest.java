@@ -1,7 +1,7 @@
 /** Promises 1 to 5 and the language: the tape, the tokens, the grammar, the depth and the errors 1 to 5. */
 public final class LanguageTest {
-    private static final String TWO = "legger p strength 1 lungs 1; legger q strength 9 lungs 9; ";
-    private static final String WHEN = "whistle west when ";
+    private static final String TWO = Texts.TWO;
+    private static final String WHEN = Texts.WHEN;
 
     private final Check check = new Check();
 
@@ -25,21 +25,12 @@ public final class LanguageTest {
         test.check.end();
     }
 
-    private void error(String text, int error, int at) {
-        TunnelLeggers x = new TunnelLeggers();
-        Check.tape(x, text);
-        check.same("teach() of " + text, x.teach(), error);
-        check.same("errorAt() of " + text, x.errorAt(), at);
-        check.same("count(13) behind teach()", x.count(13), 0);
-    }
-
     private void right(String text) {
-        error(text, 0, -1);
+        check.right(text);
     }
 
-    /** The error is at the sign ^, which is not part of the list. */
     private void wrong(int error, String text) {
-        error(text.replace("^", ""), error, text.indexOf('^'));
+        check.wrong(error, text);
     }
 
     private void newObject() {
@@ -114,14 +105,14 @@ public final class LanguageTest {
 
     /** Taught behind a greater list that has been at work, a list goes as in a new object of the same minute. */
     private void nothingIsLeftOver() {
-        StringBuilder great = new StringBuilder(bores(5).replace("low 0", "low 9")).append("shaft s at 3 draught 3; shaft t at 9 draught 1; ");
-        great.append(lines(6, "legger l", " strength 4 lungs 9; "));
+        StringBuilder great = new StringBuilder(Texts.bores(5).replace("low 0", "low 9")).append("shaft s at 3 draught 3; shaft t at 9 draught 1; ");
+        great.append(Texts.lines(6, "legger l", " strength 4 lungs 9; "));
         for (int i = 0; i < 8; i++) {
             great.append("boat k").append(i).append(" weight ").append(i != 1 ? 1 : 60).append(" from ")
                 .append(i % 2 == 0 ? "west" : "east").append(" due 0 by l").append(i % 6).append(" and l")
                 .append((i + 1) % 6).append("; ");
         }
-        great.append(times(3, "whistle east when minute / 9 * 9 = minute; rest l1 when not capped l2 and 1 = 2; "));
+        great.append(Texts.times(3, "whistle east when minute / 9 * 9 = minute; rest l1 when not capped l2 and 1 = 2; "));
         String small = "bore a long 3 low 0; bore b long 2 low 9; legger p strength 9 lungs 9; "
             + "legger q strength 5 lungs 8; boat k weight 7 from west due 0 by p and q; "
             + "whistle east when air(5) = 0 and minute > 40; whistle west when 1 = 1;";
@@ -148,7 +139,7 @@ public final class LanguageTest {
             check.same("pass", x.pass(1), fresh.pass(1));
         }
         // The operations of the tests are not kept either: they would be too many soon.
-        String sums = WHEN + "1 = 1" + times(90, "+1") + "; whistle east when 1 = 1;";
+        String sums = WHEN + "1 = 1" + Texts.times(90, "+1") + "; whistle east when 1 = 1;";
         for (int i = 0; i < 8; i++) {
             Check.tape(x, sums);
             check.same("teach", x.teach(), 0);
@@ -300,47 +291,43 @@ public final class LanguageTest {
         wrong(1, list + "^k = 1;");
     }
 
-    private static String times(int n, String text) {
-        return text.repeat(n);
-    }
-
     private void depth() {
-        right(WHEN + times(8, "(") + "1" + times(8, ")") + " = 1;");
-        wrong(1, WHEN + times(8, "(") + "^(1" + times(9, ")") + " = 1;");
-        right(WHEN + times(8, "[") + "1 = 1" + times(8, "]") + ";");
-        wrong(1, WHEN + times(8, "[") + "^[1 = 1" + times(9, "]") + ";");
-        right(WHEN + times(8, "-") + "1 = 1;");
-        wrong(1, WHEN + times(8, "-") + "^-1 = 1;");
-        right(WHEN + times(8, "not ") + "1 = 1;");
-        wrong(1, WHEN + times(8, "not ") + "^not 1 = 1;");
+        right(WHEN + Texts.times(8, "(") + "1" + Texts.times(8, ")") + " = 1;");
+        wrong(1, WHEN + Texts.times(8, "(") + "^(1" + Texts.times(9, ")") + " = 1;");
+        right(WHEN + Texts.times(8, "[") + "1 = 1" + Texts.times(8, "]") + ";");
+        wrong(1, WHEN + Texts.times(8, "[") + "^[1 = 1" + Texts.times(9, "]") + ";");
+        right(WHEN + Texts.times(8, "-") + "1 = 1;");
+        wrong(1, WHEN + Texts.times(8, "-") + "^-1 = 1;");
+        right(WHEN + Texts.times(8, "not ") + "1 = 1;");
+        wrong(1, WHEN + Texts.times(8, "not ") + "^not 1 = 1;");
         right(WHEN + "not [-(air(min(-max(1, 2), 3))) = 1];");
         wrong(1, WHEN + "not [-(air(min(-max(1, ^(2)), 3))) = 1];");
         wrong(1, WHEN + "not [-(air(min(-max(^-1, 2), 3))) = 1];");
-        wrong(1, WHEN + times(8, "-") + "air^(1) = 1;");
-        wrong(1, WHEN + times(8, "-") + "min^(1, 2) = 1;");
-        wrong(1, WHEN + times(8, "not ") + "^[1 = 1];");
-        right(WHEN + "min(" + times(7, "(") + "1" + times(7, ")") + ", " + times(7, "(") + "1" + times(7, ")") + ") = 1;");
-        wrong(1, WHEN + "max(1, " + times(7, "(") + "^(1" + times(8, ")") + ") = 1;");
-        wrong(1, WHEN + "max(" + times(7, "(") + "^(1" + times(8, ")") + ", 1) = 1;");
-        wrong(1, WHEN + times(8, "[") + "^-1 = 1" + times(8, "]") + ";");
-        right(WHEN + times(12, "1 - ") + "1 = 1;");
-        right(WHEN + times(8, "-") + "1 - 1 * " + times(8, "-") + "1 = " + times(8, "(") + "1" + times(8, ")") + ";");
-        right(WHEN + times(8, "not ") + "1 = 1 and " + times(8, "not ") + "1 = 1 or " + times(8, "[") + "1 = 1"
-            + times(8, "]") + ";");
-        right(WHEN + times(8, "(") + "1" + times(8, ")") + " + " + times(8, "(") + "1" + times(8, ")") + " = 1;");
-        wrong(1, WHEN + "not 1 = " + times(7, "-") + "^-1;");
-        right(WHEN + "not 1 = " + times(7, "-") + "1 and 1 = " + times(8, "-") + "1;");
+        wrong(1, WHEN + Texts.times(8, "-") + "air^(1) = 1;");
+        wrong(1, WHEN + Texts.times(8, "-") + "min^(1, 2) = 1;");
+        wrong(1, WHEN + Texts.times(8, "not ") + "^[1 = 1];");
+        right(WHEN + "min(" + Texts.times(7, "(") + "1" + Texts.times(7, ")") + ", " + Texts.times(7, "(") + "1" + Texts.times(7, ")") + ") = 1;");
+        wrong(1, WHEN + "max(1, " + Texts.times(7, "(") + "^(1" + Texts.times(8, ")") + ") = 1;");
+        wrong(1, WHEN + "max(" + Texts.times(7, "(") + "^(1" + Texts.times(8, ")") + ", 1) = 1;");
+        wrong(1, WHEN + Texts.times(8, "[") + "^-1 = 1" + Texts.times(8, "]") + ";");
+        right(WHEN + Texts.times(12, "1 - ") + "1 = 1;");
+        right(WHEN + Texts.times(8, "-") + "1 - 1 * " + Texts.times(8, "-") + "1 = " + Texts.times(8, "(") + "1" + Texts.times(8, ")") + ";");
+        right(WHEN + Texts.times(8, "not ") + "1 = 1 and " + Texts.times(8, "not ") + "1 = 1 or " + Texts.times(8, "[") + "1 = 1"
+            + Texts.times(8, "]") + ";");
+        right(WHEN + Texts.times(8, "(") + "1" + Texts.times(8, ")") + " + " + Texts.times(8, "(") + "1" + Texts.times(8, ")") + " = 1;");
+        wrong(1, WHEN + "not 1 = " + Texts.times(7, "-") + "^-1;");
+        right(WHEN + "not 1 = " + Texts.times(7, "-") + "1 and 1 = " + Texts.times(8, "-") + "1;");
     }
 
     private void numberOfTokens() {
         // "whistle west when -1 = 1;" has 8 tokens, "whistle west when 1 = 1;" 7, and each "+ 1" has 2.
-        right(WHEN + "-1 = 1" + times(196, "+1") + ";");
-        wrong(1, WHEN + "1 = 1" + times(197, "+1") + "^;");
-        wrong(1, WHEN + "-1 = 1" + times(196, "+1") + "+^1;");
-        wrong(1, WHEN + "-1 = 1" + times(196, "+1") + "; ^bore");
-        wrong(1, WHEN + "1 = 1" + times(197, "+1") + " \n^");
-        right(WHEN + "-1 = 1" + times(196, "+1") + "; \n");
-        wrong(1, WHEN + "1 = 1" + times(190, "+1") + "^=" + times(20, "+1") + ";");
+        right(WHEN + "-1 = 1" + Texts.times(196, "+1") + ";");
+        wrong(1, WHEN + "1 = 1" + Texts.times(197, "+1") + "^;");
+        wrong(1, WHEN + "-1 = 1" + Texts.times(196, "+1") + "+^1;");
+        wrong(1, WHEN + "-1 = 1" + Texts.times(196, "+1") + "; ^bore");
+        wrong(1, WHEN + "1 = 1" + Texts.times(197, "+1") + " \n^");
+        right(WHEN + "-1 = 1" + Texts.times(196, "+1") + "; \n");
+        wrong(1, WHEN + "1 = 1" + Texts.times(190, "+1") + "^=" + Texts.times(20, "+1") + ";");
     }
 
     private void error1First() {
@@ -364,7 +351,7 @@ public final class LanguageTest {
         right("bore a9 long 1 low 0; bore b long 1 low 0; bore ba long 1 low 0; bore zzzzzzzzzz long 1 low 0; "
             + "bore z999999999 long 1 low 0;");
         wrong(2, "bore zzzzzzzzzz long 1 low 0; bore ^zzzzzzzzzz long 1 low 0;");
-        wrong(2, bores(5) + "bore ^b2 long 1 low 0;");
+        wrong(2, Texts.bores(5) + "bore ^b2 long 1 low 0;");
     }
 
     private void error3() {
@@ -383,33 +370,17 @@ public final class LanguageTest {
         wrong(3, TWO + "rest ^r when 1 = 1; legger r strength 1 lungs 1;");
     }
 
-    private static String bores(int n) {
-        StringBuilder text = new StringBuilder();
-        for (int i = 0; i < n; i++) {
-            text.append("bore b").append(i).append(" long 12 low 0; ");
-        }
-        return text.toString();
-    }
-
-    private static String lines(int n, String start, String end) {
-        StringBuilder text = new StringBuilder();
-        for (int i = 0; i < n; i++) {
-            text.append(start).append(i).append(end);
-        }
-        return text.toString();
-    }
-
     private void error4() {
-        right(bores(5));
-        wrong(4, bores(5) + "bore ^x long 0 low 0;");
-        right(bores(1) + lines(4, "shaft s", " at 1 draught 1;"));
-        wrong(4, bores(1) + lines(4, "shaft s", " at 1 draught 1;") + "shaft ^x at 99 draught 1;");
-        right(lines(6, "legger l", " strength 1 lungs 1;"));
-        wrong(4, lines(6, "legger l", " strength 1 lungs 1;") + "legger ^x strength 0 lungs 1;");
-        right(TWO + lines(8, "boat k", " weight 1 from west due 0 by p and q;"));
-        wrong(4, TWO + lines(8, "boat k", " weight 1 from west due 0 by p and q;")
+        right(Texts.bores(5));
+        wrong(4, Texts.bores(5) + "bore ^x long 0 low 0;");
+        right(Texts.bores(1) + Texts.lines(4, "shaft s", " at 1 draught 1;"));
+        wrong(4, Texts.bores(1) + Texts.lines(4, "shaft s", " at 1 draught 1;") + "shaft ^x at 99 draught 1;");
+        right(Texts.lines(6, "legger l", " strength 1 lungs 1;"));
+        wrong(4, Texts.lines(6, "legger l", " strength 1 lungs 1;") + "legger ^x strength 0 lungs 1;");
+        right(TWO + Texts.lines(8, "boat k", " weight 1 from west due 0 by p and q;"));
+        wrong(4, TWO + Texts.lines(8, "boat k", " weight 1 from west due 0 by p and q;")
             + "boat ^x weight 0 from west due 0 by p and q;");
-        String orders = TWO + times(7, "whistle east when 1=1;") + times(9, "rest p when 1=1;");
+        String orders = TWO + Texts.times(7, "whistle east when 1=1;") + Texts.times(9, "rest p when 1=1;");
         right(orders);
         wrong(4, orders + "^whistle west when inside z;");
         wrong(4, orders + "^rest z when 1 = 1;");
@@ -423,13 +394,13 @@ public final class LanguageTest {
         wrong(5, "bore a long ^13 low 0;");
         wrong(5, "bore a long ^999999 low 10;");
         wrong(5, "bore a long 1 low ^10;");
-        right(bores(5) + "shaft s at 59 draught 30; shaft t at 0 draught 1;");
-        wrong(5, bores(5) + "shaft s at ^60 draught 30;");
-        wrong(5, bores(1) + "shaft s at ^12 draught 30; " + "bore x long 1 low 0;");
-        right(bores(1) + "shaft s at 11 draught 30;");
+        right(Texts.bores(5) + "shaft s at 59 draught 30; shaft t at 0 draught 1;");
+        wrong(5, Texts.bores(5) + "shaft s at ^60 draught 30;");
+        wrong(5, Texts.bores(1) + "shaft s at ^12 draught 30; " + "bore x long 1 low 0;");
+        right(Texts.bores(1) + "shaft s at 11 draught 30;");
         wrong(5, "shaft s at ^0 draught 1;");
-        wrong(5, bores(1) + "shaft s at 0 draught ^0;");
-        wrong(5, bores(1) + "shaft s at 0 draught ^31;");
+        wrong(5, Texts.bores(1) + "shaft s at 0 draught ^0;");
+        wrong(5, Texts.bores(1) + "shaft s at 0 draught ^31;");
         wrong(5, "legger p strength ^0 lungs 1;");
         wrong(5, "legger p strength ^10 lungs 1;");
         wrong(5, "legger p strength 9 lungs ^0;");

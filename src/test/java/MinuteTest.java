@@ -29,15 +29,6 @@ public final class MinuteTest {
         test.check.end();
     }
 
-    private static String leggers(int... strengthAndLungs) {
-        StringBuilder text = new StringBuilder();
-        for (int i = 0; i < strengthAndLungs.length; i += 2) {
-            text.append("legger ").append((char) ('p' + i / 2)).append(" strength ").append(strengthAndLungs[i])
-                .append(" lungs ").append(strengthAndLungs[i + 1]).append("; ");
-        }
-        return text.toString();
-    }
-
     private void boat(TunnelLeggers x, int boat, int how, int place, int pushed, int outMinute) {
         String call = "in minute " + x.count(0) + " boat(" + boat + ", ";
         check.same(call + "3)", x.boat(boat, 3), how);
@@ -59,7 +50,7 @@ public final class MinuteTest {
     }
 
     private void oneBoatGoesThrough() {
-        TunnelLeggers x = Check.taught("bore a long 3 low 0; " + leggers(5, 9, 4, 3)
+        TunnelLeggers x = Check.taught("bore a long 3 low 0; " + Texts.leggers(5, 9, 4, 3)
             + "boat k weight 10 from west due 0 by p and q;");
         boat(x, 0, 0, -1, 0, -1);
         check.same("canEnter", x.canEnter(0), true);
@@ -90,7 +81,7 @@ public final class MinuteTest {
     }
 
     private void fromEast() {
-        TunnelLeggers x = Check.taught("bore a long 2 low 0; bore b long 2 low 0; " + leggers(5, 9, 4, 3)
+        TunnelLeggers x = Check.taught("bore a long 2 low 0; bore b long 2 low 0; " + Texts.leggers(5, 9, 4, 3)
             + "boat k weight 10 from east due 0 by p and q;");
         check.same("canEnter", x.canEnter(0), false);
         x.pass(1);
@@ -106,7 +97,7 @@ public final class MinuteTest {
     }
 
     private void severalPlacesInAMinute() {
-        TunnelLeggers x = Check.taught("bore a long 12 low 0; bore b long 12 low 0; " + leggers(9, 9, 9, 9)
+        TunnelLeggers x = Check.taught("bore a long 12 low 0; bore b long 12 low 0; " + Texts.leggers(9, 9, 9, 9)
             + "boat k weight 5 from west due 0 by p and q;");
         x.pass(1);
         boat(x, 0, 1, 3, 3, -1);
@@ -114,19 +105,19 @@ public final class MinuteTest {
         // 18 * 94 / 100 = 16
         x.pass(1);
         boat(x, 0, 1, 6, 4, -1);
-        x = Check.taught("bore a long 12 low 0; bore b long 6 low 0; " + leggers(9, 9, 9, 9)
+        x = Check.taught("bore a long 12 low 0; bore b long 6 low 0; " + Texts.leggers(9, 9, 9, 9)
             + "boat k weight 1 from west due 0 by p and q;");
         check.same("pass", x.pass(1), 1);
         boat(x, 0, 2, -1, 0, 0);
         check.same("count(11)", x.count(11), 1800);
-        x = Check.taught("bore a long 12 low 0; bore b long 7 low 0; " + leggers(9, 9, 9, 9)
+        x = Check.taught("bore a long 12 low 0; bore b long 7 low 0; " + Texts.leggers(9, 9, 9, 9)
             + "boat k weight 1 from west due 0 by p and q;");
         check.same("pass", x.pass(1), 0);
         boat(x, 0, 1, 18, 0, -1);
     }
 
     private void dueAndNoPlaces() {
-        TunnelLeggers x = Check.taught("bore a long 1 low 0; " + leggers(1, 9, 1, 9)
+        TunnelLeggers x = Check.taught("bore a long 1 low 0; " + Texts.leggers(1, 9, 1, 9)
             + "boat k weight 60 from west due 2 by p and q;");
         x.pass(1);
         check.same("canEnter", x.canEnter(0), false);
@@ -135,14 +126,14 @@ public final class MinuteTest {
         check.same("canEnter", x.canEnter(0), true);
         x.pass(1);
         boat(x, 0, 1, 0, 2, -1);
-        x = Check.taught(leggers(1, 9, 1, 9) + "boat k weight 1 from west due 0 by p and q;");
+        x = Check.taught(Texts.leggers(1, 9, 1, 9) + "boat k weight 1 from west due 0 by p and q;");
         check.same("canEnter", x.canEnter(0), false);
         check.same("pass", x.pass(120), 0);
         boat(x, 0, 0, -1, 0, -1);
     }
 
     private void fourPlacesClear() {
-        String list = "bore a long 9 low 0; " + leggers(9, 9, 9, 9, 1, 9, 1, 9)
+        String list = "bore a long 9 low 0; " + Texts.leggers(9, 9, 9, 9, 1, 9, 1, 9)
             + "boat k weight WEIGHT from west due 0 by p and q; boat m weight 60 from west due 0 by r and s;";
         TunnelLeggers x = Check.taught(list.replace("WEIGHT", "9"));
         // minute 0: 18, place 2; minute 1: 16, place 3 and 7 left; minute 2: 23, place 5
@@ -175,7 +166,7 @@ public final class MinuteTest {
     }
 
     private void fewerPlaces() {
-        TunnelLeggers x = Check.taught("bore a long 3 low 0; " + leggers(9, 9, 9, 9, 1, 9, 1, 9)
+        TunnelLeggers x = Check.taught("bore a long 3 low 0; " + Texts.leggers(9, 9, 9, 9, 1, 9, 1, 9)
             + "boat k weight 9 from west due 0 by p and q; boat m weight 60 from west due 0 by r and s;");
         x.pass(1);
         boat(x, 0, 1, 2, 0, -1);
@@ -185,7 +176,7 @@ public final class MinuteTest {
     }
 
     private void fromTheOtherEnd() {
-        TunnelLeggers x = Check.taught("bore a long 12 low 0; " + leggers(9, 9, 9, 9, 1, 9, 1, 9)
+        TunnelLeggers x = Check.taught("bore a long 12 low 0; " + Texts.leggers(9, 9, 9, 9, 1, 9, 1, 9)
             + "boat k weight 9 from west due 0 by p and q; boat m weight 60 from east due 0 by r and s;");
         x.pass(1);
         boat(x, 0, 1, 2, 0, -1);
@@ -201,7 +192,7 @@ public final class MinuteTest {
     }
 
     private void leggersOfTwoBoats() {
-        TunnelLeggers x = Check.taught("bore a long 12 low 0; " + leggers(9, 9, 9, 9, 9, 9)
+        TunnelLeggers x = Check.taught("bore a long 12 low 0; " + Texts.leggers(9, 9, 9, 9, 9, 9)
             + "boat k weight 1 from west due 0 by p and q; boat m weight 1 from west due 0 by r and p;");
         check.same("canEnter", x.canEnter(1), true);
         check.same("pass", x.pass(1), 1);
@@ -216,7 +207,7 @@ public final class MinuteTest {
         check.same("pass", x.pass(1), 1);
         check.same("boat(1, 6)", x.boat(1, 6), 10);
         // The second one shares a legger with the first one, which is at place 6 and far from its end.
-        x = Check.taught("bore a long 12 low 0; " + leggers(9, 9, 9, 9, 9, 9)
+        x = Check.taught("bore a long 12 low 0; " + Texts.leggers(9, 9, 9, 9, 9, 9)
             + "boat k weight 3 from west due 0 by p and q; boat m weight 1 from west due 0 by r and q;");
         x.pass(1);
         boat(x, 0, 1, 6, 0, -1);
@@ -235,7 +226,7 @@ public final class MinuteTest {
 
     private void breathOfTheFree() {
         // 6, 5, 5, 4, 4, 4, 3, 3, 3, 2, 2, 2 are pushed; the air is 34 and 28 in the end
-        TunnelLeggers x = Check.taught("bore a long 1 low 0; " + leggers(3, 3, 3, 9)
+        TunnelLeggers x = Check.taught("bore a long 1 low 0; " + Texts.leggers(3, 3, 3, 9)
             + "boat k weight 49 from west due 0 by p and q;");
         check.same("pass", x.pass(12), 0);
         breath(x, 27, 87);
@@ -253,7 +244,7 @@ public final class MinuteTest {
 
     private void airByShafts() {
         // 3 less a minute: 40 in the 19th minute, then 37, 34, 31, 28, 25, 22, 19
-        String list = "bore a long 1 low 0; shaft s at 0 draught 3; " + leggers(1, 9, 1, 9)
+        String list = "bore a long 1 low 0; shaft s at 0 draught 3; " + Texts.leggers(1, 9, 1, 9)
             + "boat k weight 60 from west due 0 by p and q;";
         TunnelLeggers x = Check.taught(list);
         x.pass(19);
@@ -274,7 +265,7 @@ public final class MinuteTest {
     }
 
     private void badAir() {
-        TunnelLeggers x = Check.taught("bore a long 1 low 0; " + leggers(1, 9, 1, 2)
+        TunnelLeggers x = Check.taught("bore a long 1 low 0; " + Texts.leggers(1, 9, 1, 2)
             + "boat k weight 60 from west due 0 by p and q;");
         x.pass(10);
         air(x, 40);
@@ -296,7 +287,7 @@ public final class MinuteTest {
     }
 
     private void noBreathNoPush() {
-        TunnelLeggers x = Check.taught("bore a long 1 low 0; bore b long 1 low 9; " + leggers(1, 9, 9, 2)
+        TunnelLeggers x = Check.taught("bore a long 1 low 0; bore b long 1 low 9; " + Texts.leggers(1, 9, 9, 2)
             + "boat k weight 60 from west due 0 by p and q;");
         // 10, 9, 8, 8, 7, 7, then 6, then 5 and a move
         x.pass(6);
@@ -313,7 +304,7 @@ public final class MinuteTest {
         check.same("pass", x.pass(2), 1);
         check.same("boat(0, 6)", x.boat(0, 6), 15);
         // A boat that stays till one of its leggers has no breath: 2, then 1 for each minute with 50 or more
-        x = Check.taught("bore a long 1 low 0; " + leggers(2, 9, 2, 2) + "boat k weight 60 from west due 0 by p and q;");
+        x = Check.taught("bore a long 1 low 0; " + Texts.leggers(2, 9, 2, 2) + "boat k weight 60 from west due 0 by p and q;");
         x.pass(17);
         breath(x, 69, 0);
         int pushed = x.boat(0, 5);
@@ -327,7 +318,7 @@ public final class MinuteTest {
     }
 
     private void boatAhead() {
-        TunnelLeggers x = Check.taught("bore a long 12 low 0; " + leggers(9, 9, 9, 9, 9, 9, 9, 9)
+        TunnelLeggers x = Check.taught("bore a long 12 low 0; " + Texts.leggers(9, 9, 9, 9, 9, 9, 9, 9)
             + "boat k weight 4 from west due 0 by p and q; boat m weight 2 from west due 0 by r and s;"
             + "whistle west when 1 = 1;");
         x.pass(1);
@@ -362,7 +353,7 @@ public final class MinuteTest {
 
     private void capsAgain() {
         TunnelLeggers x = Check.taught("bore a long 1 low 0; bore b long 1 low 9; bore c long 1 low 9; "
-            + leggers(9, 9, 9, 9, 3, 9) + "boat k weight 18 from west due 0 by p and q; "
+            + Texts.leggers(9, 9, 9, 9, 3, 9) + "boat k weight 18 from west due 0 by p and q; "
             + "boat m weight 1 from east due 0 by r and q;");
         // minute 0: place 1, both caps lie there; the legger r has one still
         x.pass(1);
@@ -392,7 +383,7 @@ public final class MinuteTest {
 
     private void shafts() {
         TunnelLeggers x = Check.taught("bore a long 7 low 0; shaft s at 3 draught 5; shaft t at 0 draught 2; "
-            + leggers(1, 9, 1, 9) + "boat k weight 60 from west due 0 by p and q; whistle east when minute > 8; "
+            + Texts.leggers(1, 9, 1, 9) + "boat k weight 60 from west due 0 by p and q; whistle east when minute > 8; "
             + "boat m weight 60 from east due 0 by p and q;");
         // The boat spoils 6 of place 0, the second shaft brings 2.
         x.pass(8);
@@ -402,23 +393,23 @@ public final class MinuteTest {
         air(x, 36);
         breath(x, 88, 88);
         x = Check.taught("bore a long 7 low 0; " + "shaft s at 3 draught 6; shaft t at 3 draught 5; "
-            + leggers(1, 9, 1, 9) + "boat k weight 60 from west due 0 by p and q;");
+            + Texts.leggers(1, 9, 1, 9) + "boat k weight 60 from west due 0 by p and q;");
         x.pass(10);
         // 3 places from both shafts: nothing
         air(x, 40, 100);
         x = Check.taught("bore a long 7 low 0; shaft s at 3 draught 7; shaft t at 6 draught 30; "
-            + leggers(1, 9, 1, 9) + "boat k weight 60 from west due 0 by p and q;");
+            + Texts.leggers(1, 9, 1, 9) + "boat k weight 60 from west due 0 by p and q;");
         // 1 of the first shaft, 30 - 12 = 18 of the second one
         x.pass(1);
         air(x, 100);
         x.pass(1);
         air(x, 100, 100, 100, 100, 100, 100, 100);
         x = Check.taught("bore a long 7 low 0; shaft s at 2 draught 6; shaft t at 0 draught 1; "
-            + leggers(1, 9, 1, 9) + "boat k weight 60 from west due 0 by p and q;");
+            + Texts.leggers(1, 9, 1, 9) + "boat k weight 60 from west due 0 by p and q;");
         // 2 and 1 better
         x.pass(5);
         air(x, 85);
-        x = Check.taught("bore a long 1 low 0; shaft s at 0 draught 30; " + leggers(9, 9, 9, 9)
+        x = Check.taught("bore a long 1 low 0; shaft s at 0 draught 30; " + Texts.leggers(9, 9, 9, 9)
             + "boat k weight 60 from west due 0 by p and q;");
         x.pass(1);
         air(x, 100);
@@ -426,7 +417,7 @@ public final class MinuteTest {
     }
 
     private void orders() {
-        String list = "bore a long 1 low 0; " + leggers(1, 9, 1, 9) + "boat k weight 60 from east due 0 by p and q; ";
+        String list = "bore a long 1 low 0; " + Texts.leggers(1, 9, 1, 9) + "boat k weight 60 from east due 0 by p and q; ";
         TunnelLeggers x = Check.taught(list + "whistle west when minute = 1; whistle east when minute <= 1; "
             + "whistle west when turn = 1 and minute = 3; whistle east when turn = 1;");
         int[] turn = {1, 0, 0, 0};
@@ -461,14 +452,14 @@ public final class MinuteTest {
 
     private void restAsItComesToItsTurn() {
         // As it comes to its turn the boat waits itself, and is at no place.
-        String list = "bore a long 12 low 0; " + leggers(9, 9, 9, 9, 9, 9, 9, 9)
+        String list = "bore a long 12 low 0; " + Texts.leggers(9, 9, 9, 9, 9, 9, 9, 9)
             + "boat k weight 60 from west due 0 by p and q; boat m weight 60 from west due 9 by r and s; "
             + "boat n weight 60 from east due 9 by r and s; ";
         TunnelLeggers x = Check.taught(list + "rest p when waits west = 0; rest p when place k >= 0; rest p when inside k;");
         x.pass(1);
         boat(x, 0, 1, 0, 18, -1);
         // A boat that has gone in waits no more when the next one comes to its turn; seen by who could go in.
-        x = Check.taught("bore a long 12 low 0; " + leggers(9, 9, 9, 9, 9, 9, 9, 9)
+        x = Check.taught("bore a long 12 low 0; " + Texts.leggers(9, 9, 9, 9, 9, 9, 9, 9)
             + "boat k weight 4 from west due 0 by p and q; boat m weight 4 from west due 0 by r and s; "
             + "boat n weight 4 from west due 1 by r and s; rest r when waits west < 2;");
         check.same("canEnter(1) with 2 that wait", x.canEnter(1), true);
@@ -480,18 +471,12 @@ public final class MinuteTest {
         boat(x, 1, 1, 4, 2, -1);
     }
 
-    private boolean holds(String list, String test, int minutes) {
-        TunnelLeggers x = Check.taught(list + "whistle east when minute = " + (minutes - 1) + " and [" + test + "];");
-        x.pass(minutes);
-        return x.count(1) == 1;
-    }
-
     private void holds(String test) {
-        check.same(test, holds("", test, 1), true);
+        check.same(test, Check.holds("", test, 1), true);
     }
 
     private void fails(String test) {
-        check.same(test, holds("", test, 1), false);
+        check.same(test, Check.holds("", test, 1), false);
     }
 
     private void sums() {
@@ -542,29 +527,29 @@ public final class MinuteTest {
     }
 
     private void sumsOfTheTunnel() {
-        String list = "bore a long 3 low 9; " + leggers(9, 9, 3, 2) + "legger r strength 1 lungs 4; "
+        String list = "bore a long 3 low 9; " + Texts.leggers(9, 9, 3, 2) + "legger r strength 1 lungs 4; "
             + "boat k weight 18 from west due 1 by p and q; boat m weight 1 from west due 4 by r and p; "
             + "boat n weight 1 from east due 3 by p and r; boat o weight 1 from east due 2 by p and r; ";
-        check.same("before", holds(list, "waits west = 0 and waits east = 0 and place k = -1 and not inside k and capped p "
+        check.same("before", Check.holds(list, "waits west = 0 and waits east = 0 and place k = -1 and not inside k and capped p "
             + "and breath q = 20 and air(2) = 100 and air(3) = 0 and air(-1) = 0 and turn = 0 and minute = 1 - 1", 1), true);
-        check.same("in minute 1", holds(list, "waits west = 1 and minute = 1 and place k = 0 - 1", 2), true);
+        check.same("in minute 1", Check.holds(list, "waits west = 1 and minute = 1 and place k = 0 - 1", 2), true);
         // minute 1: 12 pushed at place 0, where the strong one loses the cap
-        check.same("in minute 2", holds(list, "waits west = 0 and waits east = 1 and place k = 0 and inside k and not inside m "
+        check.same("in minute 2", Check.holds(list, "waits west = 0 and waits east = 1 and place k = 0 and inside k and not inside m "
             + "and not capped p and capped q and capped r and air(0) = 94 and air(1 - 1) > 93 and air(1) = 100", 3), true);
-        check.same("in minute 4", holds(list, "waits west = 1 and waits east = 2 and place k = 1 and place m = -1", 5), true);
-        check.same("capped p", holds(list, "capped p", 1), true);
-        check.same("capped p", holds(list, "capped p", 4), false);
-        check.same("capped q", holds(list, "capped q", 4), true);
-        check.same("inside k", holds(list, "inside k", 2), false);
-        check.same("inside k", holds(list, "inside k", 3), true);
-        check.same("turn", holds(list + "whistle east when minute = 1;", "turn = 1", 3), true);
+        check.same("in minute 4", Check.holds(list, "waits west = 1 and waits east = 2 and place k = 1 and place m = -1", 5), true);
+        check.same("capped p", Check.holds(list, "capped p", 1), true);
+        check.same("capped p", Check.holds(list, "capped p", 4), false);
+        check.same("capped q", Check.holds(list, "capped q", 4), true);
+        check.same("inside k", Check.holds(list, "inside k", 2), false);
+        check.same("inside k", Check.holds(list, "inside k", 3), true);
+        check.same("turn", Check.holds(list + "whistle east when minute = 1;", "turn = 1", 3), true);
         // 12 in minute 1; 11 and a move with 5; 12; 11 and a move with 10; 12 and out
-        check.same("in minute 6", holds(list, "place k = -1 and not inside k and waits west = 1", 7), true);
-        check.same("in minute 5", holds(list, "place k = 2 and inside k", 6), true);
+        check.same("in minute 6", Check.holds(list, "place k = -1 and not inside k and waits west = 1", 7), true);
+        check.same("in minute 5", Check.holds(list, "place k = 2 and inside k", 6), true);
     }
 
     private void passRefused() {
-        TunnelLeggers x = Check.taught("bore a long 1 low 0; " + leggers(1, 9, 1, 9)
+        TunnelLeggers x = Check.taught("bore a long 1 low 0; " + Texts.leggers(1, 9, 1, 9)
             + "boat k weight 1 from west due 0 by p and q;");
         check.illegal(x, "pass(0)", () -> x.pass(0));
         check.illegal(x, "pass(-1)", () -> x.pass(-1));
