@@ -903,6 +903,10 @@ public final class LanguageEdgesTest {
         }
         holds("min(" + least + ", " + most + ") = " + least + " and max(" + least + ", " + most + ") = " + most);
         check.about("1. The language: sum, product and value, from left to right");
+        for (String test : new String[] {"1 + 1 = 3", "3 - 1 = 1", "2 * 3 = 5", "6 / 2 = 2", "min(1, 2) = 2", "max(1, 2) = 1",
+            "-1 = 1", "air(0) = 1", "(1) = 2", "2 + 2 * 2 = 8", "9 - 3 - 2 = 8", "8 / 4 / 2 = 4", "8 / 4 * 2 = 1"}) {
+            fails(test);
+        }
         holds("10 - 3 - 2 = 5 and 100 / 10 / 5 = 2 and 7 / 2 * 2 = 6 and 2 + 3 * 4 - 1 = 13 and -2 * 3 + 7 = 1");
         check.about("2. The tunnel: and binds more than or, not more than and");
         holds("1 = 1 or 1 = 1 and 1 = 2");
